@@ -613,18 +613,24 @@ public final class VersionSolver {
         private static final int OPTIONS = MOST_RELEASES + PACKS;
 
         private final Registry registry;
-        private final long[] clashes = new long[OPTIONS];
+        private final int[] packOf = new int[OPTIONS];
         private final long[] optionsOf = new long[PACKS];
-        /** For each version the packages that it has requirements on, a bit for each. */
-        private final int[] needed = new int[MOST_RELEASES];
+        private final long[] clashes = new long[OPTIONS];
+        /** For each option the packages that it has requirements on, a bit for each. */
+        private final int[] needed = new int[OPTIONS];
         /** The packages that the root has requirements on, a bit for each. */
         private int wanted;
         /** The solution that was found last, so that its options need no search again. */
         private long found;
+        /** For each package the options that do not clash with all of its open ones. */
+        private final long[] partners = new long[PACKS];
+        /** For each package the packages that its open options have requirements on. */
+        private final int[] neededBy = new int[PACKS];
 
         Search(Registry registry) {
             this.registry = registry;
             for (int pack = 0; pack < PACKS; pack++) {
+                packOf[MOST_RELEASES + pack] = pack;
                 optionsOf[pack] = 1L << (MOST_RELEASES + pack);
             }
         }
@@ -637,6 +643,7 @@ public final class VersionSolver {
             if (version < 0 || version >= MOST_RELEASES) {
                 return;
             }
+            packOf[version] = release.pack;
             optionsOf[release.pack] |= 1L << version;
             for (int pack = 0; pack < PACKS; pack++) {
                 if (release.hasNeedOf(pack)) {
@@ -644,11 +651,9 @@ public final class VersionSolver {
                     setClash(version, MOST_RELEASES + pack);
                 }
             }
-            setClash(version, MOST_RELEASES + release.pack);
             for (int i = 0; i < registry.count; i++) {
                 Release other = registry.at(i);
-                if (other != null && (i != version && other.pack == release.pack
-                        || release.excludes(other) || other.excludes(release))) {
+                if (other != null && (release.excludes(other) || other.excludes(release))) {
                     setClash(version, i);
                 }
             }
@@ -663,7 +668,7 @@ public final class VersionSolver {
         long first(Requirement[] root, int[] pins) {
             long open = openOptions(root, pins);
             found = NO_SOLUTION;
-            if (!isPossible(open, 0, 0)) {
+            if (!isPossible(open, 0)) {
                 return NO_SOLUTION;
             }
             for (int pack = 0; pack < PACKS; pack++) {
@@ -671,7 +676,7 @@ public final class VersionSolver {
                 if (option == NONE) {
                     return NO_SOLUTION;
                 }
-                open &= ~clashes[option];
+                open = settled(open, pack, option);
             }
             return open;
         }
@@ -699,17 +704,15 @@ public final class VersionSolver {
             return open;
         }
 
-        /** The first option of a package that some solution has, where those before are set. */
+        /** The first option of a package that a solution within the open options has. */
         private int firstPossible(long open, int pack, int pinned) {
-            int settled = (2 << pack) - 1;
             long rest = open & optionsOf[pack];
             for (int i = 0; i < OPTIONS && rest != 0; i++) {
                 int option = foremost(rest, pack, pinned);
                 if (option == NONE) {
                     return NONE;
                 }
-                if (holds(found, option)
-                        || isPossible(open & ~clashes[option], settled, pack + 1)) {
+                if (holds(found, option) || isPossible(settled(open, pack, option), 0)) {
                     return option;
                 }
                 rest &= ~(1L << option);
@@ -733,73 +736,99 @@ public final class VersionSolver {
             return highest;
         }
 
-        /**
-         * Whether a solution lies in the open options, and if so, finds it. Of the packages
-         * that are settled (a bit for each, depth of them) the clashes are out already.
-         */
-        private boolean isPossible(long open, int settled, int depth) {
-            long left = withoutUnreached(open);
-            if (leavesSomePackNothing(left)) {
+        private long settled(long open, int pack, int option) {
+            return open & ~optionsOf[pack] | 1L << option;
+        }
+
+        /** Whether a solution lies within the open options; if so, one is found. */
+        private boolean isPossible(long open, int depth) {
+            long left = narrowed(open);
+            if (left == NO_SOLUTION || depth > PACKS) {
                 return false;
             }
-            if (depth >= PACKS) {
+            int pack = narrowest(left);
+            if (pack == NONE) {
                 found = left;
                 return true;
             }
-            int pack = narrowest(left, settled);
-            if (pack == NONE) {
-                return false;
-            }
-            long options = left & optionsOf[pack];
-            for (int option = 0; option < OPTIONS; option++) {
-                if (holds(options, option) && isPossible(left & ~clashes[option],
-                        settled | 1 << pack, depth + 1)) {
+            return isPossibleWithOneOf(pack, left, depth);
+        }
+
+        private boolean isPossibleWithOneOf(int pack, long open, int depth) {
+            // from the highest number on: that a package has none is the likeliest to go well
+            for (int option = OPTIONS - 1; option >= 0; option--) {
+                if (holds(open & optionsOf[pack], option)
+                        && isPossible(settled(open, pack, option), depth + 1)) {
                     return true;
                 }
             }
             return false;
         }
 
-        /** Takes out the versions of packages that no open option could make reached. */
-        private long withoutUnreached(long open) {
-            int reached = wanted;
-            int before = 0;
-            for (int round = 0; round < PACKS && reached != before; round++) {
-                before = reached;
-                for (int i = 0; i < registry.count; i++) {
-                    Release release = registry.at(i);
-                    if (release != null && holds(open, i) && (reached >> release.pack & 1) != 0) {
-                        reached |= needed[i];
+        /**
+         * Takes out, until nothing changes, options that no solution can have: those that
+         * clash with all that is open of a package, and versions of packages that can't be
+         * reached. All go where a package has nothing left. Where one option is left of each
+         * package, they are a solution.
+         */
+        private long narrowed(long open) {
+            long left = open;
+            for (int pass = 0; pass <= OPTIONS; pass++) {
+                long before = left;
+                gather(left);
+                int reached = mostReached();
+                for (int pack = 0; pack < PACKS; pack++) {
+                    left &= partners[pack];
+                    if ((reached >> pack & 1) == 0) {
+                        left &= ~optionsOf[pack] | 1L << (MOST_RELEASES + pack);
                     }
                 }
-            }
-            long left = open;
-            for (int pack = 0; pack < PACKS; pack++) {
-                if ((reached >> pack & 1) == 0) {
-                    left &= ~optionsOf[pack] | 1L << (MOST_RELEASES + pack);
+                if (left == before) {
+                    return left;
                 }
             }
             return left;
         }
 
-        private boolean leavesSomePackNothing(long options) {
-            for (int pack = 0; pack < PACKS; pack++) {
-                if ((options & optionsOf[pack]) == 0) {
-                    return true;
+        private void gather(long open) {
+            Arrays.fill(partners, 0);
+            Arrays.fill(neededBy, 0);
+            for (int option = 0; option < OPTIONS; option++) {
+                if (holds(open, option)) {
+                    partners[packOf[option]] |= ~clashes[option];
+                    neededBy[packOf[option]] |= needed[option];
                 }
             }
-            return false;
         }
 
-        /** The package with the fewest options, which keeps the search small; NONE if settled. */
-        private int narrowest(long options, int settled) {
+        /** The packages that are reached, if each has all of its open versions at once. */
+        private int mostReached() {
+            int reached = wanted;
+            int before = 0;
+            for (int round = 0; round < PACKS && reached != before; round++) {
+                before = reached;
+                for (int pack = 0; pack < PACKS; pack++) {
+                    if ((reached >> pack & 1) != 0) {
+                        reached |= neededBy[pack];
+                    }
+                }
+            }
+            return reached;
+        }
+
+        /**
+         * The package to try next, NONE if each has one option: first those that must have a
+         * version, of these the one with the fewest options, which keeps the search small.
+         */
+        private int narrowest(long options) {
             int narrowest = NONE;
-            int fewest = OPTIONS + 1;
+            int fewest = 2 * OPTIONS;
             for (int pack = 0; pack < PACKS; pack++) {
                 int count = Long.bitCount(options & optionsOf[pack]);
-                if ((settled >> pack & 1) == 0 && count < fewest) {
+                int rank = holds(options, MOST_RELEASES + pack) ? count + OPTIONS : count;
+                if (count > 1 && rank < fewest) {
                     narrowest = pack;
-                    fewest = count;
+                    fewest = rank;
                 }
             }
             return narrowest;
