@@ -607,6 +607,10 @@ public final class VersionSolver {
      * package has none (40 and the package); a set of options is the bits of a long. What
      * published versions ask of one another never changes, so it is learnt once: which
      * options clash, that is, can't both be in a solution.
+     *
+     * That each package must be reached is nowhere looked at. It needs no look: without the
+     * packages that are not reached, a choice still meets all requirements, and it comes
+     * before the one with them, since none comes first.
      */
     private static final class Search {
         static final long NO_SOLUTION = 0;
@@ -616,16 +620,10 @@ public final class VersionSolver {
         private final int[] packOf = new int[OPTIONS];
         private final long[] optionsOf = new long[PACKS];
         private final long[] clashes = new long[OPTIONS];
-        /** For each option the packages that it has requirements on, a bit for each. */
-        private final int[] needed = new int[OPTIONS];
-        /** The packages that the root has requirements on, a bit for each. */
-        private int wanted;
-        /** The solution that was found last, so that its options need no search again. */
-        private long found;
         /** For each package the options that do not clash with all of its open ones. */
         private final long[] partners = new long[PACKS];
-        /** For each package the packages that its open options have requirements on. */
-        private final int[] neededBy = new int[PACKS];
+        /** One option for each package, none of which clash: what was found last. */
+        private long found;
 
         Search(Registry registry) {
             this.registry = registry;
@@ -647,7 +645,6 @@ public final class VersionSolver {
             optionsOf[release.pack] |= 1L << version;
             for (int pack = 0; pack < PACKS; pack++) {
                 if (release.hasNeedOf(pack)) {
-                    needed[version] |= 1 << pack;
                     setClash(version, MOST_RELEASES + pack);
                 }
             }
@@ -667,7 +664,6 @@ public final class VersionSolver {
         /** The first solution as a set of options, one for each package; or NO_SOLUTION. */
         long first(Requirement[] root, int[] pins) {
             long open = openOptions(root, pins);
-            found = NO_SOLUTION;
             if (!isPossible(open, 0)) {
                 return NO_SOLUTION;
             }
@@ -681,15 +677,12 @@ public final class VersionSolver {
             return open;
         }
 
-        /** What the root, the yanked and the pinned versions leave; also sets what is wanted. */
+        /** What the root and the yanked versions leave. */
         private long openOptions(Requirement[] root, int[] pins) {
             long open = 0;
-            wanted = 0;
             for (int pack = 0; pack < PACKS; pack++) {
                 if (root[pack] == null) {
                     open |= 1L << (MOST_RELEASES + pack);
-                } else {
-                    wanted |= 1 << pack;
                 }
             }
             for (int i = 0; i < registry.count; i++) {
@@ -704,7 +697,7 @@ public final class VersionSolver {
             return open;
         }
 
-        /** The first option of a package that a solution within the open options has. */
+        /** The first option of a package that is possible; what was found last shows one. */
         private int firstPossible(long open, int pack, int pinned) {
             long rest = open & optionsOf[pack];
             for (int i = 0; i < OPTIONS && rest != 0; i++) {
@@ -740,25 +733,25 @@ public final class VersionSolver {
             return open & ~optionsOf[pack] | 1L << option;
         }
 
-        /** Whether a solution lies within the open options; if so, one is found. */
+        /** Whether each package can have one of the open options without a clash. */
         private boolean isPossible(long open, int depth) {
             long left = narrowed(open);
             if (left == NO_SOLUTION || depth > PACKS) {
                 return false;
             }
-            int pack = narrowest(left);
+            int pack = mostPressing(left);
             if (pack == NONE) {
-                found = left;
+                found = withNoneWherePossible(left);
                 return true;
             }
             return isPossibleWithOneOf(pack, left, depth);
         }
 
         private boolean isPossibleWithOneOf(int pack, long open, int depth) {
-            // from the highest number on: that a package has none is the likeliest to go well
-            for (int option = OPTIONS - 1; option >= 0; option--) {
-                if (holds(open & optionsOf[pack], option)
-                        && isPossible(settled(open, pack, option), depth + 1)) {
+            // the latest first: it is often the highest, and then need not be looked for again
+            for (int version = MOST_RELEASES - 1; version >= 0; version--) {
+                if (holds(open & optionsOf[pack], version)
+                        && isPossible(settled(open, pack, version), depth + 1)) {
                     return true;
                 }
             }
@@ -766,22 +759,16 @@ public final class VersionSolver {
         }
 
         /**
-         * Takes out, until nothing changes, options that no solution can have: those that
-         * clash with all that is open of a package, and versions of packages that can't be
-         * reached. All go where a package has nothing left. Where one option is left of each
-         * package, they are a solution.
+         * Takes out, until nothing changes, the options that clash with all that is open of
+         * some package; that is all of them, where a package has nothing left.
          */
         private long narrowed(long open) {
             long left = open;
             for (int pass = 0; pass <= OPTIONS; pass++) {
                 long before = left;
-                gather(left);
-                int reached = mostReached();
+                gatherPartners(left);
                 for (int pack = 0; pack < PACKS; pack++) {
                     left &= partners[pack];
-                    if ((reached >> pack & 1) == 0) {
-                        left &= ~optionsOf[pack] | 1L << (MOST_RELEASES + pack);
-                    }
                 }
                 if (left == before) {
                     return left;
@@ -790,48 +777,41 @@ public final class VersionSolver {
             return left;
         }
 
-        private void gather(long open) {
+        private void gatherPartners(long open) {
             Arrays.fill(partners, 0);
-            Arrays.fill(neededBy, 0);
             for (int option = 0; option < OPTIONS; option++) {
                 if (holds(open, option)) {
                     partners[packOf[option]] |= ~clashes[option];
-                    neededBy[packOf[option]] |= needed[option];
                 }
             }
-        }
-
-        /** The packages that are reached, if each has all of its open versions at once. */
-        private int mostReached() {
-            int reached = wanted;
-            int before = 0;
-            for (int round = 0; round < PACKS && reached != before; round++) {
-                before = reached;
-                for (int pack = 0; pack < PACKS; pack++) {
-                    if ((reached >> pack & 1) != 0) {
-                        reached |= neededBy[pack];
-                    }
-                }
-            }
-            return reached;
         }
 
         /**
-         * The package to try next, NONE if each has one option: first those that must have a
-         * version, of these the one with the fewest options, which keeps the search small.
+         * Of the packages that must have a version and still have several, the one with the
+         * fewest, which keeps the search small; NONE where there is no such package.
          */
-        private int narrowest(long options) {
-            int narrowest = NONE;
-            int fewest = 2 * OPTIONS;
+        private int mostPressing(long open) {
+            int pressing = NONE;
+            int fewest = OPTIONS;
             for (int pack = 0; pack < PACKS; pack++) {
-                int count = Long.bitCount(options & optionsOf[pack]);
-                int rank = holds(options, MOST_RELEASES + pack) ? count + OPTIONS : count;
-                if (count > 1 && rank < fewest) {
-                    narrowest = pack;
-                    fewest = rank;
+                int count = Long.bitCount(open & optionsOf[pack]);
+                if (count > 1 && count < fewest && !holds(open, MOST_RELEASES + pack)) {
+                    pressing = pack;
+                    fewest = count;
                 }
             }
-            return narrowest;
+            return pressing;
+        }
+
+        /** That packages have none never clashes with that others have none. */
+        private long withNoneWherePossible(long open) {
+            long options = open;
+            for (int pack = 0; pack < PACKS; pack++) {
+                if (holds(open, MOST_RELEASES + pack)) {
+                    options = settled(options, pack, MOST_RELEASES + pack);
+                }
+            }
+            return options;
         }
     }
 

@@ -145,6 +145,8 @@ public final class GrammarTest {
         String most = "1.0.0;1 >=1.0.0-aaaaaaaaaaaaaaaaaa,>=1.0.0-bbbbbbbbbbbbbbbbbb,"
                 + ">=1.0.0-cccccccccccccccccc,>=1.0.0-dddddddddddddddddd;2 *;3 *;4 *;5 *";
         published(most + " ".repeat(160 - most.length()), true);
+        published(most + " ".repeat(159 - most.length()) + ";", false);
+        published(most.replace(";5 *", ";5 1") + " ".repeat(159 - most.length()) + ",", false);
     }
 
     private static void published(String text, boolean sound) {

@@ -3,6 +3,12 @@ import java.util.Random;
 
 /** All promises: runs of random calls, answered by VersionSolver as by the Model. */
 public final class RandomRunsTest {
+    /**
+     * FREE: all that the grammar has. LOOSE: requirements that many versions meet, so that many
+     * packages have versions. TIGHT: few versions that exclude one another.
+     */
+    private enum Kind { FREE, LOOSE, TIGHT }
+
     private static final String[] SIGNS = {"", "^", "~", "=", ">", ">=", "<", "<="};
     private static final String ODD = " .,;*^~=><+-0129aZ\n\u00e9";
 
@@ -14,18 +20,25 @@ public final class RandomRunsTest {
     private final int packs;
     private final int top;
     private final int breaks;
-    /** With requirements that many versions meet, so that many packages have versions. */
-    private final boolean loose;
+    private final Kind kind;
     private final VersionSolver x = new VersionSolver();
     private final Model model = new Model();
     private final StringBuilder told = new StringBuilder();
 
     private RandomRunsTest(long seed) {
         random = new Random(seed);
-        loose = random.nextInt(3) != 0;
-        packs = loose ? 4 + random.nextInt(5) : 1 + random.nextInt(8);
-        top = loose ? 5 : 1 + random.nextInt(3);
-        breaks = loose ? 200 : random.nextInt(3) == 0 ? 4 : 40;
+        kind = Kind.values()[random.nextInt(3)];
+        packs = switch (kind) {
+            case FREE -> 1 + random.nextInt(8);
+            case LOOSE -> 4 + random.nextInt(5);
+            case TIGHT -> 3 + random.nextInt(4);
+        };
+        top = switch (kind) {
+            case FREE -> 1 + random.nextInt(3);
+            case LOOSE -> 5;
+            case TIGHT -> 2;
+        };
+        breaks = kind != Kind.FREE ? 200 : random.nextInt(3) == 0 ? 4 : 40;
     }
 
     public static void main(String[] args) {
@@ -40,8 +53,11 @@ public final class RandomRunsTest {
 
     private void run() {
         int most = 40 + random.nextInt(472);
-        int publications = loose ? 2 * packs + random.nextInt(8)
-                : 3 + random.nextInt(random.nextInt(4) == 0 ? 40 : 14);
+        int publications = switch (kind) {
+            case FREE -> 3 + random.nextInt(random.nextInt(4) == 0 ? 40 : 14);
+            case LOOSE -> 2 * packs + random.nextInt(8);
+            case TIGHT -> 3 * packs;
+        };
         for (int i = 0; i < most; i++) {
             if (model.told(0) < publications && random.nextInt(3) != 0) {
                 publish();
@@ -127,12 +143,15 @@ public final class RandomRunsTest {
             sizes[Integer.parseInt(answer)]++;
         } else {
             unsolved++;
+            // else a run that once has no solution would hardly ever have one again
+            int dropped = random.nextInt(packs);
+            same("drop " + dropped, () -> x.drop(dropped), () -> model.drop(dropped));
         }
     }
 
     private void publish() {
         StringBuilder text = new StringBuilder(version(true));
-        int needs = random.nextInt(4);
+        int needs = random.nextInt(kind == Kind.TIGHT ? 6 : 4);
         for (int i = 0; i < needs; i++) {
             text.append(';').append(random.nextInt(packs)).append(' ').append(requirement());
         }
@@ -143,7 +162,7 @@ public final class RandomRunsTest {
 
     private String requirement() {
         StringBuilder text = new StringBuilder();
-        int comparators = random.nextInt(loose ? 12 : 4) == 0 ? 1 + random.nextInt(4) : 1;
+        int comparators = random.nextInt(kind != Kind.FREE ? 12 : 4) == 0 ? 1 + random.nextInt(4) : 1;
         for (int i = 0; i < comparators; i++) {
             text.append(i == 0 ? "" : ",").append(" ".repeat(random.nextInt(8) / 6)).append(comparator());
             text.append(" ".repeat(random.nextInt(8) / 6));
@@ -153,7 +172,11 @@ public final class RandomRunsTest {
 
     private String comparator() {
         String sign = SIGNS[random.nextInt(SIGNS.length)];
-        if (loose && random.nextInt(8) != 0) {
+        if (kind == Kind.TIGHT && random.nextInt(12) != 0) {
+            String[] some = {"=0", "=1", "=2", "<2", ">0", "<2", ">0", "*"};
+            return some[random.nextInt(some.length)];
+        }
+        if (kind == Kind.LOOSE && random.nextInt(8) != 0) {
             String[] some = {"*", ">=" + number(), "<=" + number(), ">=1", "<=4", "^" + number()};
             return some[random.nextInt(some.length)];
         }
@@ -168,7 +191,7 @@ public final class RandomRunsTest {
     }
 
     private String version(boolean build) {
-        if (loose && random.nextInt(8) != 0) {
+        if (kind != Kind.FREE && random.nextInt(8) != 0) {
             return number() + ".0.0";
         }
         StringBuilder text = new StringBuilder();

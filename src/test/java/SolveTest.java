@@ -11,6 +11,8 @@ public final class SolveTest {
         chosenStays();
         pinnedFirst();
         wide();
+        notAllThree();
+        noneFirstOfMany();
         Checks.end("SolveTest");
     }
 
@@ -192,5 +194,42 @@ public final class SolveTest {
         Checks.want(x, 2, "*");
         Checks.due("six packages can't be", Checks.STATE, x::solve);
         Checks.due("what was chosen stays", "- - - 19 23 27 31 35", () -> Checks.choice(x));
+    }
+
+    /** Any two of three packages go together, but not all three: only trying can tell. */
+    private static void notAllThree() {
+        VersionSolver x = registry("0 1.0.0;1 2;2 >1", "0 2.0.0;1 1;2 1", "1 1.0.0;2 >1", "1 2.0.0;2 1", "2 1.0.0",
+                "2 2.0.0");
+        Checks.want(x, 0, "*");
+        Checks.due("not all three", Checks.STATE, x::solve);
+        Checks.publish(x, 3, "1.0.0;0 *");
+        Checks.publish(x, 3, "2.0.0");
+        Checks.want(x, 3, "*");
+        Checks.due("not with a fourth", Checks.STATE, x::solve);
+        x.drop(0);
+        Checks.due("the fourth without them", "- - - 7 - - - -", () -> Checks.solved(x));
+        Checks.publish(x, 0, "0.0.1;1 2;2 1");
+        Checks.want(x, 0, "*");
+        Checks.due("a version that goes with both", "8 3 4 7 - - - -", () -> Checks.solved(x));
+        x.pin(0);
+        x.pin(2);
+        x.pin(5);
+        Checks.due("whatever is pinned", "8 3 4 7 - - - -", () -> Checks.solved(x));
+    }
+
+    /** Five versions of package 7, of which each needs some of the packages before. */
+    private static void noneFirstOfMany() {
+        VersionSolver x = registry("7 1.0.0;3 *", "7 2.0.0;2 *", "7 3.0.0;1 *;2 *", "7 4.0.0;1 *", "7 5.0.0;0 *",
+                "0 1.0.0", "1 1.0.0", "2 1.0.0", "3 1.0.0");
+        Checks.want(x, 7, "*");
+        Checks.due("the earlier packages have none", "- - - 8 - - - 0", () -> Checks.solved(x));
+        Checks.want(x, 7, ">1");
+        Checks.due("0 and 1 have none", "- - 7 - - - - 1", () -> Checks.solved(x));
+        Checks.want(x, 7, ">2");
+        Checks.due("0 and 2 have none", "- 6 - - - - - 3", () -> Checks.solved(x));
+        x.yank(3, true);
+        Checks.due("0 has none", "- 6 7 - - - - 2", () -> Checks.solved(x));
+        Checks.want(x, 0, "*");
+        Checks.due("1 and 2 have none", "5 - - - - - - 4", () -> Checks.solved(x));
     }
 }
