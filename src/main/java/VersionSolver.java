@@ -1040,7 +1040,7 @@ public final class VersionSolver {
         }
 
         private boolean take(char sign) {
-            if (!isAt(at, sign)) {
+            if (at >= end || bytes[at] != sign) {
                 return false;
             }
             at++;

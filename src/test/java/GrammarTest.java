@@ -145,7 +145,12 @@ public final class GrammarTest {
         String most = "1.0.0;1 >=1.0.0-aaaaaaaaaaaaaaaaaa,>=1.0.0-bbbbbbbbbbbbbbbbbb,"
                 + ">=1.0.0-cccccccccccccccccc,>=1.0.0-dddddddddddddddddd;2 *;3 *;4 *;5 *";
         published(most + " ".repeat(160 - most.length()), true);
-        published(most + " ".repeat(159 - most.length()) + ";", false);
+        published("1.0.0;1 *" + " ".repeat(150) + ";", false);
+        published("1.0.0;1 *" + " ".repeat(149) + ";2", false);
+        published("1.0.0;1 *" + " ".repeat(148) + ";2 ", false);
+        published("1.0.0;1 *" + " ".repeat(147) + ";2 1", true);
+        published("1.0.0;1 *" + " ".repeat(146) + ";2 1.", false);
+        published("1.0.0;1 *" + " ".repeat(145) + ";2 >=", false);
         published(most.replace(";5 *", ";5 1") + " ".repeat(159 - most.length()) + ",", false);
     }
 

@@ -13,6 +13,8 @@ public final class SolveTest {
         wide();
         notAllThree();
         noneFirstOfMany();
+        triesAll(0);
+        triesAll(31);
         Checks.end("SolveTest");
     }
 
@@ -231,5 +233,23 @@ public final class SolveTest {
         Checks.due("0 has none", "- 6 7 - - - - 2", () -> Checks.solved(x));
         Checks.want(x, 0, "*");
         Checks.due("1 and 2 have none", "5 - - - - - - 4", () -> Checks.solved(x));
+    }
+
+    /** The higher version of package 0 needs three packages of which only two go together. */
+    private static void triesAll(int between) {
+        VersionSolver x = registry("0 1.0.0", "1 1.0.0;2 2;3 2", "1 2.0.0;2 1;3 1", "2 1.0.0;3 2", "2 2.0.0;3 1",
+                "3 1.0.0", "3 2.0.0", "0 2.0.0;1 *;2 *;3 *");
+        for (int i = 0; i < between; i++) {
+            Checks.publish(x, 7, i + ".0.0");
+        }
+        int last = Checks.publish(x, 0, "0.9.0");
+        Checks.want(x, 0, "*");
+        Checks.due("the first published", "0 - - - - - - -", () -> Checks.solved(x));
+        x.pin(7);
+        Checks.due("whatever is pinned", "0 - - - - - - -", () -> Checks.solved(x));
+        x.yank(0, true);
+        Checks.due("the last published", last + " - - - - - - -", () -> Checks.solved(x));
+        x.yank(last, true);
+        Checks.due("none of them", Checks.STATE, x::solve);
     }
 }
