@@ -8,9 +8,21 @@ final class Checks {
     static final String INDEX = "IndexOutOfBoundsException";
     static final String UNSUPPORTED = "UnsupportedOperationException";
 
+    /** What the checks are about just now; it stands before each wrong answer. */
+    private static String about = "";
+    private static int made = 0;
     private static int wrong = 0;
 
     private Checks() {
+    }
+
+    static void setAbout(String text) {
+        about = text;
+    }
+
+    /** How many answers were looked at so far. */
+    static int made() {
+        return made;
     }
 
     interface Call {
@@ -18,10 +30,11 @@ final class Checks {
     }
 
     static void due(String what, Object due, Call call) {
+        made++;
         String got = answerOf(call);
         if (!got.equals(String.valueOf(due))) {
             wrong++;
-            System.out.println(what + ": answered " + got + ", due is " + due);
+            System.out.println(about + what + ": answered " + got + ", due is " + due);
         }
     }
 
@@ -44,6 +57,24 @@ final class Checks {
             }
             x.feed(packed, n);
         }
+    }
+
+    /** An object in which these were published: each a package's digit, a blank, a publication. */
+    static VersionSolver registry(String... releases) {
+        VersionSolver x = new VersionSolver();
+        for (String release : releases) {
+            publish(x, release.charAt(0) - '0', release.substring(2));
+        }
+        return x;
+    }
+
+    /** An object with all 40 versions: 0.0.0 to 4.0.0 of each package, package by package. */
+    static VersionSolver full() {
+        VersionSolver x = new VersionSolver();
+        for (int i = 0; i < 40; i++) {
+            publish(x, i / 5, i % 5 + ".0.0");
+        }
+        return x;
     }
 
     static int publish(VersionSolver x, int pack, String text) {

@@ -154,7 +154,7 @@ public final class GrammarTest {
         published(most.replace(";5 *", ";5 1") + " ".repeat(159 - most.length()) + ",", false);
     }
 
-    private static void published(String text, boolean sound) {
+    static void published(String text, boolean sound) {
         for (int pack = 0; pack < 8; pack += 7) {
             VersionSolver x = new VersionSolver();
             int at = pack;
@@ -164,7 +164,7 @@ public final class GrammarTest {
         }
     }
 
-    private static void wanted(String text, boolean sound) {
+    static void wanted(String text, boolean sound) {
         VersionSolver x = new VersionSolver();
         Checks.publish(x, 3, "1.0.0");
         Checks.due("want of '" + text + "'", sound ? "wanted" : Checks.ARGUMENT, () -> Checks.want(x, 3, text));

@@ -18,16 +18,8 @@ public final class SolveTest {
         Checks.end("SolveTest");
     }
 
-    private static VersionSolver registry(String... releases) {
-        VersionSolver x = new VersionSolver();
-        for (String release : releases) {
-            Checks.publish(x, release.charAt(0) - '0', release.substring(2));
-        }
-        return x;
-    }
-
     private static void root() {
-        VersionSolver x = registry("0 1.0.0", "0 2.0.0", "3 1.0.0");
+        VersionSolver x = Checks.registry("0 1.0.0", "0 2.0.0", "3 1.0.0");
         Checks.due("nothing wanted", "- - - - - - - -", () -> Checks.solved(x));
         Checks.due("drop of nothing", false, () -> x.drop(0));
         Checks.want(x, 0, "*");
@@ -58,49 +50,49 @@ public final class SolveTest {
     }
 
     private static void higherFirst() {
-        VersionSolver x = registry("0 1.0.0;1 *", "0 2.0.0;1 1", "1 1.0.0", "1 2.0.0", "1 1.5.0");
+        VersionSolver x = Checks.registry("0 1.0.0;1 *", "0 2.0.0;1 1", "1 1.0.0", "1 2.0.0", "1 1.5.0");
         Checks.want(x, 0, "*");
         Checks.due("the highest of package 0, then of 1", "1 4 - - - - - -", () -> Checks.solved(x));
         Checks.want(x, 1, "2");
         Checks.due("both requirements hold", "0 3 - - - - - -", () -> Checks.solved(x));
-        VersionSolver y = registry("0 1.0.0", "0 2.0.0", "1 1.0.0;0 *", "1 2.0.0;0 1");
+        VersionSolver y = Checks.registry("0 1.0.0", "0 2.0.0", "1 1.0.0;0 *", "1 2.0.0;0 1");
         Checks.want(y, 1, "*");
         Checks.due("package 0 decides before 1", "1 2 - - - - - -", () -> Checks.solved(y));
     }
 
     private static void noneComesFirst() {
-        VersionSolver x = registry("1 1.0.0", "1 2.0.0;0 *", "0 1.0.0");
+        VersionSolver x = Checks.registry("1 1.0.0", "1 2.0.0;0 *", "0 1.0.0");
         Checks.want(x, 1, "*");
         Checks.due("package 0 better has none", "- 0 - - - - - -", () -> Checks.solved(x));
         x.pin(2);
         Checks.due("also when a version of it is pinned", "- 0 - - - - - -", () -> Checks.solved(x));
         Checks.want(x, 1, "2");
         Checks.due("unless it must", "2 1 - - - - - -", () -> Checks.solved(x));
-        VersionSolver y = registry("0 1.0.0", "0 2.0.0;1 *", "1 1.0.0");
+        VersionSolver y = Checks.registry("0 1.0.0", "0 2.0.0;1 *", "1 1.0.0");
         Checks.want(y, 0, "*");
         Checks.due("the higher one of 0 comes before none of 1", "1 2 - - - - - -", () -> Checks.solved(y));
     }
 
     private static void reached() {
-        VersionSolver x = registry("0 1.0.0;1 *", "1 1.0.0;0 *", "2 1.0.0");
+        VersionSolver x = Checks.registry("0 1.0.0;1 *", "1 1.0.0;0 *", "2 1.0.0");
         Checks.want(x, 2, "*");
         Checks.due("a ring that nobody wants", "- - 2 - - - - -", () -> Checks.solved(x));
         Checks.want(x, 1, "*");
         Checks.due("a ring that is wanted", "0 1 2 - - - - -", () -> Checks.solved(x));
-        VersionSolver y = registry("7 1.0.0;6 *", "6 1.0.0;5 *", "5 1.0.0;4 *", "4 1.0.0;3 *", "3 1.0.0;2 *",
+        VersionSolver y = Checks.registry("7 1.0.0;6 *", "6 1.0.0;5 *", "5 1.0.0;4 *", "4 1.0.0;3 *", "3 1.0.0;2 *",
                 "2 1.0.0;1 *", "1 1.0.0;0 *", "0 1.0.0;7 *");
         Checks.want(y, 7, "*");
         Checks.due("a long chain", "7 6 5 4 3 2 1 0", () -> Checks.solved(y));
         Checks.due("how many", 8, y::solve);
         // 2 could only be reached by a version of 1 that is not given
-        VersionSolver z = registry("1 1.0.0;2 *;0 1", "1 2.0.0", "2 1.0.0", "0 1.0.0;2 *", "0 2.0.0");
+        VersionSolver z = Checks.registry("1 1.0.0;2 *;0 1", "1 2.0.0", "2 1.0.0", "0 1.0.0;2 *", "0 2.0.0");
         Checks.want(z, 0, "2");
         Checks.want(z, 1, "2");
         Checks.due("not reached", "4 1 - - - - - -", () -> Checks.solved(z));
     }
 
     private static void itself() {
-        VersionSolver x = registry("0 1.0.0;0 1", "0 2.0.0;0 1", "0 3.0.0;0 >=3,<4");
+        VersionSolver x = Checks.registry("0 1.0.0;0 1", "0 2.0.0;0 1", "0 3.0.0;0 >=3,<4");
         Checks.want(x, 0, "<3");
         Checks.due("2.0.0 does not meet its own requirement", "0 - - - - - - -", () -> Checks.solved(x));
         Checks.want(x, 0, "2");
@@ -115,7 +107,7 @@ public final class SolveTest {
     }
 
     private static void yankedOnes() {
-        VersionSolver x = registry("0 1.0.0", "0 2.0.0", "1 1.0.0;0 2");
+        VersionSolver x = Checks.registry("0 1.0.0", "0 2.0.0", "1 1.0.0;0 2");
         Checks.want(x, 0, "*");
         x.yank(1, true);
         Checks.due("not a yanked one", "0 - - - - - - -", () -> Checks.solved(x));
@@ -133,7 +125,7 @@ public final class SolveTest {
     }
 
     private static void throwsAndKeeps() {
-        VersionSolver x = registry("0 1.0.0;1 1;2 1", "1 1.0.0;3 1", "2 1.0.0;3 2", "3 1.0.0", "3 2.0.0");
+        VersionSolver x = Checks.registry("0 1.0.0;1 1;2 1", "1 1.0.0;3 1", "2 1.0.0;3 2", "3 1.0.0", "3 2.0.0");
         Checks.want(x, 1, "*");
         Checks.due("package 1", "- 1 - 3 - - - -", () -> Checks.solved(x));
         Checks.want(x, 0, "*");
@@ -145,7 +137,7 @@ public final class SolveTest {
     }
 
     private static void chosenStays() {
-        VersionSolver x = registry("0 1.0.0");
+        VersionSolver x = Checks.registry("0 1.0.0");
         Checks.want(x, 0, "*");
         Checks.due("solved", 1, x::solve);
         Checks.publish(x, 0, "2.0.0");
@@ -170,7 +162,7 @@ public final class SolveTest {
     }
 
     private static void pinnedFirst() {
-        VersionSolver x = registry("0 1.0.0;1 *", "0 2.0.0;1 *", "1 1.0.0", "1 2.0.0", "1 3.0.0");
+        VersionSolver x = Checks.registry("0 1.0.0;1 *", "0 2.0.0;1 *", "1 1.0.0", "1 2.0.0", "1 3.0.0");
         Checks.want(x, 0, "*");
         x.pin(0);
         x.pin(3);
@@ -200,7 +192,7 @@ public final class SolveTest {
 
     /** Any two of three packages go together, but not all three: only trying can tell. */
     private static void notAllThree() {
-        VersionSolver x = registry("0 1.0.0;1 2;2 >1", "0 2.0.0;1 1;2 1", "1 1.0.0;2 >1", "1 2.0.0;2 1", "2 1.0.0",
+        VersionSolver x = Checks.registry("0 1.0.0;1 2;2 >1", "0 2.0.0;1 1;2 1", "1 1.0.0;2 >1", "1 2.0.0;2 1", "2 1.0.0",
                 "2 2.0.0");
         Checks.want(x, 0, "*");
         Checks.due("not all three", Checks.STATE, x::solve);
@@ -221,7 +213,7 @@ public final class SolveTest {
 
     /** Five versions of package 7, of which each needs some of the packages before. */
     private static void noneFirstOfMany() {
-        VersionSolver x = registry("7 1.0.0;3 *", "7 2.0.0;2 *", "7 3.0.0;1 *;2 *", "7 4.0.0;1 *", "7 5.0.0;0 *",
+        VersionSolver x = Checks.registry("7 1.0.0;3 *", "7 2.0.0;2 *", "7 3.0.0;1 *;2 *", "7 4.0.0;1 *", "7 5.0.0;0 *",
                 "0 1.0.0", "1 1.0.0", "2 1.0.0", "3 1.0.0");
         Checks.want(x, 7, "*");
         Checks.due("the earlier packages have none", "- - - 8 - - - 0", () -> Checks.solved(x));
@@ -237,7 +229,7 @@ public final class SolveTest {
 
     /** The higher version of package 0 needs three packages of which only two go together. */
     private static void triesAll(int between) {
-        VersionSolver x = registry("0 1.0.0", "1 1.0.0;2 2;3 2", "1 2.0.0;2 1;3 1", "2 1.0.0;3 2", "2 2.0.0;3 1",
+        VersionSolver x = Checks.registry("0 1.0.0", "1 1.0.0;2 2;3 2", "1 2.0.0;2 1;3 1", "2 1.0.0;3 2", "2 2.0.0;3 1",
                 "3 1.0.0", "3 2.0.0", "0 2.0.0;1 *;2 *;3 *");
         for (int i = 0; i < between; i++) {
             Checks.publish(x, 7, i + ".0.0");
